@@ -982,6 +982,7 @@ public final class NoonOnABarrow {
 
         Reader(Tape tape) {
             this.tape = tape;
+            text = new Text();
         }
 
         void read(Text into) {
@@ -1361,7 +1362,7 @@ public final class NoonOnABarrow {
                 case AT_MOST: whole = first <= second ? 1 : 0; break;
                 default: whole = first >= second ? 1 : 0; break;
             }
-            return (int) Math.max(-MOST_VALUE, Math.min(MOST_VALUE, whole));
+            return whole > MOST_VALUE ? MOST_VALUE : whole < -MOST_VALUE ? -MOST_VALUE : (int) whole;
         }
     }
 
