@@ -259,6 +259,47 @@ public final class DoneTest {
         Due.is("x", x.about(3), 14791);
     }
 
+    private static void whatADrawDoes() {
+        NoonOnABarrow x = parish();
+        x.lane(0, 2, 3);
+        Due.is("years(2, 1): 4 is drawn", x.years(2, 1), 1);
+        Due.is("x", x.about(3), 26512);
+        Due.is("purse", x.of(0, 1), 12);
+        Due.is("years(9, 1): 5 is drawn", x.years(9, 1), 2);
+        Due.is("x", x.about(3), 161);
+        Due.is("years(1, 1): 2 is drawn, it lies", x.years(1, 1), 2);
+        Due.is("wheels", x.barrow(4), 99);
+        Due.is("x", x.about(3), 25946);
+        Due.is("years(22, 1): 1 is drawn, 1 by 0", x.years(22, 1), 2);
+        Due.is("to", x.barrow(1), 1);
+        Due.is("by", x.barrow(3), 0);
+        Due.is("x", x.about(3), 15632);
+        Due.is("years(10, 1): 1 is drawn, 2 by 1, it can't be", x.years(10, 1), 2);
+        Due.is("to", x.barrow(1), 1);
+        Due.is("x", x.about(3), 17929);
+        Due.is("years(1, 1): 2 is drawn", x.years(1, 1), 2);
+        Due.is("lies", x.barrow(1), -1);
+        Due.is("wheels", x.barrow(4), 94);
+        Due.is("years(6, 1): 0 is drawn, 0 by 1, it can't be", x.years(6, 1), 2);
+        Due.is("lies", x.barrow(1), -1);
+        Due.is("x", x.about(3), 28799);
+        Due.is("years(11, 1): 3 is drawn", x.years(11, 1), 2);
+        Due.is("wheels", x.barrow(4), 99);
+        Due.is("x", x.about(3), 1293);
+        Due.is("years(11, 1) with the best wheels", x.years(11, 1), 2);
+        Due.is("each is a step", x.about(6), 9);
+        Due.is("years(0, 1): 0 is drawn, 2 by 1", x.years(0, 1), 2);
+        Due.is("to", x.barrow(1), 2);
+        Due.is("by", x.barrow(3), 1);
+        Due.is("steps", x.about(6), 10);
+        NoonOnABarrow y = Due.ruled("earns -1;");
+        y.house(0);
+        y.years(2, 1);
+        Due.is("debts are written", y.book(-1, 0), 1);
+        y.undo();
+        Due.is("and taken back", y.book(-1, 0), 0);
+    }
+
     private static void takingBack() {
         NoonOnABarrow x = parish();
         Due.is("undo of none", x.undo(), -1);
@@ -328,6 +369,7 @@ public final class DoneTest {
         theBookHolds30();
         wearsIsAskedWithWhatIsLeftThen();
         years();
+        whatADrawDoes();
         takingBack();
         thirtyStepsAreKept();
         Due.close();

@@ -62,6 +62,29 @@ public final class FogTest {
         Due.is("1 is the lowest that tells", x.yard(), 1);
     }
 
+    private static void everyPlaceCounts() {
+        NoonOnABarrow x = Due.ruled("warm if here=0 then noon/2 else if here=1 then if noon<2 then noon else 2 end else if noon=7 then 1 else 0 end end end;");
+        for (int i = 0; i < 8; i++) {
+            x.house(0);
+        }
+        Due.is("0 gives four answers, 1 three, the others two", x.yard(), 0);
+        x.feel(7, 0);
+        Due.is("all but 7", x.lost(), 127);
+        x.feel(1, 2);
+        Due.is("2 to 6", x.lost(), 124);
+        Due.is("0 tells three", x.yard(), 0);
+        NoonOnABarrow y = Due.ruled("warm if here=0 then if noon=1 then 5 else 6 end else if noon=0 then 1 else noon end end;");
+        for (int i = 0; i < 3; i++) {
+            y.house(0);
+        }
+        Due.is("two answers at each", y.yard(), 0);
+        NoonOnABarrow z = Due.ruled("warm if here=0 then 5 else if noon=0 then 1 else 2 end end;");
+        for (int i = 0; i < 3; i++) {
+            z.house(0);
+        }
+        Due.is("noon at 0 is an answer of its own", z.yard(), 1);
+    }
+
     private static void byTheLaw() {
         NoonOnABarrow x = Due.ruled("warm if here=2 then noon*3+minute else 7 end;");
         for (int i = 0; i < 4; i++) {
@@ -84,6 +107,7 @@ public final class FogTest {
         felt();
         lostAndYard();
         yardIsTheOneThatTellsMost();
+        everyPlaceCounts();
         byTheLaw();
         Due.close();
     }

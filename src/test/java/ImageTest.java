@@ -128,6 +128,24 @@ public final class ImageTest {
         Due.is("steps", x.about(6), 30);
     }
 
+    private static void theNewOneIsImaged() {
+        NoonOnABarrow x = imaged();
+        Due.is("back() without an image told", x.back(), 0);
+        int[] due = {0, 0, 0, 89, 0, -1, 0, 0, 0, 0};
+        for (int what = 0; what < 10; what++) {
+            Due.is("about(" + what + ")", x.about(what), due[what]);
+        }
+        Due.is("wheels", x.barrow(4), 99);
+        Due.is("book", x.book(-1, 0), 0);
+        x.house(4);
+        x.house(5);
+        Due.is("hill", x.of(0, 0), 4);
+        Due.is("purse", x.of(0, 1), 0);
+        Due.is("no lane", x.two(0, 1, 0), 99);
+        Due.is("weights are 1", x.fair(1), 0);
+        Due.is("no law", x.of(0, 4), 12);
+    }
+
     private static void about() {
         NoonOnABarrow x = imaged();
         int[] due = {2, 1, x.about(2), x.about(3), 1, 0, 4, 1, 1, 0};
@@ -143,6 +161,7 @@ public final class ImageTest {
         tapeAndFaultStay();
         textsTakeTheSamePlaces();
         thirtyStepsInARingAreImaged();
+        theNewOneIsImaged();
         about();
         Due.close();
     }

@@ -63,6 +63,14 @@ public final class TextTest {
         Due.faulty("house 3", 1, 7);
         Due.faulty("house 3 \n", 1, 9);
         Due.faulty("House 3;", 1, 0);
+        for (String letter : new String[] {"a", "z", "A", "Z"}) {
+            Due.faulty(letter + "house 3;", 1, 0);
+            Due.faulty("house" + letter + " 3;", 1, 0);
+        }
+        for (String sign : new String[] {"@", "[", "`", "{", ":", ",", "!", "~"}) {
+            Due.faulty("house" + sign + " 3;", 1, 5);
+        }
+        Due.fine("house 0;house 9;hard 0+9;");
         Due.faulty("houses 3;", 1, 0);
         Due.faulty("hous 3;", 1, 0);
         Due.faulty("house\t3;", 1, 5);
@@ -246,6 +254,11 @@ public final class TextTest {
             Due.is("1" + how[i] + "2", said("if 1" + how[i] + "2 then 1 else 0 end"), less[i]);
             Due.is("2" + how[i] + "2", said("if 2" + how[i] + "2 then 1 else 0 end"), same[i]);
             Due.is("3" + how[i] + "2", said("if 3" + how[i] + "2 then 1 else 0 end"), more[i]);
+            Due.is("not 1" + how[i] + "2", said("if not 1" + how[i] + "2 then 1 else 0 end"), 1 - less[i]);
+            Due.is("not 3" + how[i] + "2", said("if not 3" + how[i] + "2 then 1 else 0 end"), 1 - more[i]);
+            Due.is("1" + how[i] + "2 and 1=1", said("if 1" + how[i] + "2 and 1=1 then 1 else 0 end"), less[i]);
+            Due.is("2" + how[i] + "2 and 1<2", said("if 2" + how[i] + "2 and 1<2 then 1 else 0 end"), same[i]);
+            Due.is("1=2 or 3" + how[i] + "2", said("if 1=2 or 3" + how[i] + "2 then 1 else 0 end"), more[i]);
         }
         Due.is("and ahead of or", said("if 1=1 or 1=1 and 1=2 then 1 else 0 end"), 1);
         Due.is("and ahead of or", said("if 1=2 and 1=2 or 1=1 then 1 else 0 end"), 1);
