@@ -141,6 +141,8 @@ public final class DoneTest {
         Due.is("-999", x.of(1, 1), -999);
         x.minute(41);
         Due.is("9999", x.of(0, 1), 9999);
+        x.minute(1);
+        Due.is("9999 at most", x.of(0, 1), 9999);
         Due.is("99 below 0", x.book(0, 2), 99);
     }
 
@@ -157,8 +159,14 @@ public final class DoneTest {
         Due.is("not all can", x.minute(40), -1);
         Due.is("nothing is done", x.about(2), 9960);
         Due.is("minute(38)", x.minute(38), 0);
-        Due.is("push", x.push(1, 0), 27);
-        Due.is("arrives not", x.arrives(), -1);
+        x.lane(0, 1, 1);
+        x.pusher(2);
+        x.pusher(3);
+        Due.is("push", x.push(1, 2), 3);
+        Due.is("arrives in the last", x.arrives(), 1);
+        x.undo();
+        Due.is("push", x.push(1, 1), 3);
+        Due.is("arrives in two, if two could pass", x.arrives(), -1);
         Due.is("foretold pale", x.foretold(60, 1, 1), 99);
         Due.is("foretold purse of those that can pass", x.foretold(60, 1, 0), 8);
         Due.is("the last", x.minute(1), 0);
@@ -210,6 +218,24 @@ public final class DoneTest {
         Due.is("as ahead of them", x.book(-1, 0), 8);
         Due.is("the eldest again", x.book(0, 0), 0);
         Due.so("it was gone", eldest > 0, true);
+    }
+
+    private static void theBookDebtByDebt() {
+        NoonOnABarrow x = Due.ruled("earns if purse<0 then 99 else -99 end;");
+        x.house(0);
+        for (int debts = 1; debts <= 36; debts++) {
+            Due.is("minute(2)", x.minute(2), 1);
+            Due.is("debts", x.book(-1, 0), Math.min(30, debts));
+            Due.is("the eldest", x.book(0, 0), 2 * Math.max(0, debts - 30));
+            Due.is("the latest", x.book(Math.min(30, debts) - 1, 0), 2 * debts - 2);
+        }
+        for (int i = 0; i < 12; i++) {
+            x.undo();
+        }
+        for (int i = 0; i < 30; i++) {
+            Due.is("all of the book as it was", x.book(i, 0), 2 * i);
+            Due.is("99 pence", x.book(i, 2), 99);
+        }
     }
 
     private static void wearsIsAskedWithWhatIsLeftThen() {
@@ -367,6 +393,7 @@ public final class DoneTest {
         boundsOfPurses();
         theLastMinute();
         theBookHolds30();
+        theBookDebtByDebt();
         wearsIsAskedWithWhatIsLeftThen();
         years();
         whatADrawDoes();

@@ -128,6 +128,30 @@ public final class ImageTest {
         Due.is("steps", x.about(6), 30);
     }
 
+    private static void pairsAreImaged() {
+        NoonOnABarrow x = new NoonOnABarrow();
+        x.house(0);
+        x.house(0);
+        x.house(0);
+        x.lane(0, 1, 1);
+        x.want(1, 12);
+        x.want(0, 11);
+        x.feel(0, 25);
+        x.image();
+        x.want(-1, 0);
+        x.want(2, 12);
+        x.want(2, 12);
+        x.feel(-1, 0);
+        x.feel(2, 30);
+        Due.is("at 2", x.fitting(), 4);
+        Due.is("at 2", x.lost(), 4);
+        x.back();
+        Due.is("at 1 again", x.fitting(), 2);
+        Due.is("at 1 again", x.lost(), 2);
+        Due.is("wanted", x.about(7), 2);
+        Due.is("felt", x.about(8), 1);
+    }
+
     private static void theNewOneIsImaged() {
         NoonOnABarrow x = imaged();
         Due.is("back() without an image told", x.back(), 0);
@@ -161,6 +185,7 @@ public final class ImageTest {
         tapeAndFaultStay();
         textsTakeTheSamePlaces();
         thirtyStepsInARingAreImaged();
+        pairsAreImaged();
         theNewOneIsImaged();
         about();
         Due.close();

@@ -87,6 +87,19 @@ public final class WantedTest {
         Due.is("without houses", new NoonOnABarrow().route(-1), -2);
     }
 
+    private static void eightWanted() {
+        NoonOnABarrow x = square();
+        int[] noons = {0, 3, 0, 3, 2, 1, 2, 3};
+        for (int noon : noons) {
+            x.want(noon, 12);
+        }
+        int[] route = {1, 3, 1, 0, 1, 3, 2, 0, 1, 0, 2, 3};
+        Due.is("lanes", x.route(-1), route.length);
+        for (int i = 0; i < route.length; i++) {
+            Due.is("route(" + i + ")", x.route(i), route[i]);
+        }
+    }
+
     private static void fewestLanesNotShortest() {
         NoonOnABarrow x = new NoonOnABarrow();
         for (int i = 0; i < 4; i++) {
@@ -149,6 +162,7 @@ public final class WantedTest {
         wanted();
         fitting();
         routes();
+        eightWanted();
         fewestLanesNotShortest();
         least();
         leastByTheLaw();
