@@ -711,9 +711,11 @@ public final class NoonOnABarrow {
             return book[i * DEBT_FIELDS + what];
         }
 
+        /** X as it is tells the draw; it is changed behind it. */
         int draw(int m) {
+            int drawn = m > 0 ? x % m : 0;
             x = (x * 283 + 193) % 30313;
-            return m > 0 ? x % m : 0;
+            return drawn;
         }
     }
 

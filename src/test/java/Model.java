@@ -470,8 +470,9 @@ final class Model {
     }
 
     private int draw(int m) {
-        all.now.x = (all.now.x * 283 + 193) % 30313;
-        return all.now.x % m;
+        int x = all.now.x;
+        all.now.x = (x * 283 + 193) % 30313;
+        return x % m;
     }
 
     int years(int seed, int n) {
