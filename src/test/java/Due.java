@@ -1,16 +1,53 @@
+import java.io.IOException;
+import java.nio.charset.StandardCharsets;
+import java.nio.file.Files;
+import java.nio.file.Path;
+import java.util.Set;
+import java.util.TreeSet;
+
 /** Counts the answers that are not as due, and feeds TEXTS. */
 final class Due {
+    private static final Path DOCUMENT = Path.of(System.getProperty("document", "../shared/DOC.md"));
     private static int wrong = 0;
     private static int asked = 0;
+    private static final Set<String> SENTENCES = new TreeSet<>();
+    private static String sentence = "";
+    private static String document;
 
     private Due() {
+    }
+
+    /** What follows tests this sentence; it must stand in the document as it is quoted here. */
+    static void sentence(String quoted) {
+        sentence = quoted;
+        SENTENCES.add(quoted);
+        if (document == null) {
+            document = inOneLine(read(DOCUMENT));
+        }
+        if (!document.isEmpty() && !document.contains(inOneLine(quoted))) {
+            wrong++;
+            System.out.println("the document doesn't say: " + quoted);
+        }
+    }
+
+    private static String read(Path file) {
+        try {
+            return new String(Files.readAllBytes(file), StandardCharsets.UTF_8);
+        } catch (IOException gone) {
+            System.out.println(file + " can't be read, so the quotes are not looked up");
+            return "";
+        }
+    }
+
+    private static String inOneLine(String text) {
+        return text.replaceAll("\\s+", " ").trim();
     }
 
     static void is(String call, long got, long due) {
         asked++;
         if (got != due) {
             wrong++;
-            System.out.println(call + " answered " + got + ", due is " + due);
+            System.out.println(call + " answered " + got + ", due is " + due + behind());
         }
     }
 
@@ -18,9 +55,24 @@ final class Due {
         is(call, got ? 1 : 0, due ? 1 : 0);
     }
 
+    static void same(String what, String got, String due) {
+        asked++;
+        if (!got.equals(due)) {
+            wrong++;
+            System.out.println(what + " was [" + got + "], due is [" + due + "]" + behind());
+        }
+    }
+
+    private static String behind() {
+        return sentence.isEmpty() ? "" : " (" + sentence + ")";
+    }
+
     /** Behind what is on the tape come the text's bytes alone. */
     static void feed(NoonOnABarrow x, String text) {
         int had = x.about(9);
+        if (had + text.length() > 300) {
+            throw new IllegalArgumentException("the tape can't hold " + text);
+        }
         for (int at = 0; at < text.length(); at += 20) {
             int[] five = new int[5];
             for (int i = 0; i < 20; i++) {
@@ -61,7 +113,8 @@ final class Due {
     }
 
     static void close() {
-        System.out.println(asked + " answers, " + wrong + " of them not as due");
+        String told = SENTENCES.size() > 0 ? SENTENCES.size() + " sentences, " : "";
+        System.out.println(told + asked + " answers, " + wrong + " of them not as due");
         if (wrong != 0 || asked == 0) {
             System.exit(1);
         }
