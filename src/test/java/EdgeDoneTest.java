@@ -68,6 +68,7 @@ public final class EdgeDoneTest {
     }
 
     private static void mended() {
+        Due.sentence("MENDED: WHEELS are 99.");
         Due.sentence("MENDED: true. False, if WHEELS are 99.");
         for (int wheels : new int[] {0, 1, 97, 98}) {
             NoonOnABarrow x = pair("hard 9;wears " + (99 - wheels) + ";", 9);
@@ -361,6 +362,27 @@ public final class EdgeDoneTest {
         Due.is("none again", x.undo(), -1);
     }
 
+    private static void theLatestThirtyOfMany() {
+        Due.sentence("the latest 30 can be taken back, the latest first");
+        for (int passed : new int[] {30, 31, 59, 60, 61, 62, 89, 90, 91, 92, 119, 121, 150, 183}) {
+            NoonOnABarrow x = new NoonOnABarrow();
+            x.house(0);
+            for (int rest = passed; rest > 0; rest -= 60) {
+                x.minute(Math.min(60, rest));
+            }
+            for (int i = 29; i >= 0; i--) {
+                Due.is("undo of " + passed, x.undo(), i);
+                Due.is("minute of " + passed, x.about(2), passed - 30 + i);
+                Due.is("purse of " + passed, x.of(0, 1), 12 * (passed - 30 + i));
+            }
+            Due.is("no more of " + passed, x.undo(), -1);
+            x.minute(40);
+            Due.is("30 anew", x.about(6), 30);
+            x.undo();
+            Due.is("the latest of these", x.about(2), passed - 30 + 39);
+        }
+    }
+
     private static void asAheadOfIt() {
         Due.sentence("(THE BARROW, WHEELS, PURSES, PALE, MINUTE, X, BOOK are as ahead of it; HOUSES told since have PURSE 0, PALE 0)");
         NoonOnABarrow x = Due.ruled("hard 3;earns if here=7 then -7 else 5-here end;");
@@ -426,6 +448,16 @@ public final class EdgeDoneTest {
                 Due.is("x", x.about(3), changed(seed * 2 + 89, n));
             }
         }
+        Due.sentence("A draw by m: X mod m, X being (X * 283 + 193) mod 30313 then.");
+        int[][] ends = {{3522, 25, 0}, {1930, 19, 1}, {1327, 2, 2}, {1479, 18, 30311}, {737, 28, 30312}};
+        for (int[] e : ends) {
+            x.years(e[0], e[1]);
+            Due.is("x at an end of its range", x.about(3), e[2]);
+            if (e[1] < 30) {
+                x.years(e[0], e[1] + 1);
+                Due.is("x behind it", x.about(3), (e[2] * 283 + 193) % 30313);
+            }
+        }
         Due.sentence("YEARS: MINUTE. NONE for others, and without HOUSES.");
         int then = x.about(3);
         Due.is("seed -1", x.years(-1, 1), -1);
@@ -434,7 +466,7 @@ public final class EdgeDoneTest {
         Due.is("31 years", x.years(5, 31), -1);
         Due.is("x is as it was", x.about(3), then);
         Due.sentence("It is one STEP: MINUTE.");
-        Due.is("one each", x.about(6), 20);
+        Due.is("one each", x.about(6), 30);
         NoonOnABarrow none = new NoonOnABarrow();
         Due.is("without houses", none.years(0, 1), -1);
         Due.is("no step", none.about(6), 0);
@@ -555,6 +587,7 @@ public final class EdgeDoneTest {
         allAsThen();
         minutesOneToSixty();
         theLatestThirtySteps();
+        theLatestThirtyOfMany();
         asAheadOfIt();
         years();
         drawsByHowManyThereAre();

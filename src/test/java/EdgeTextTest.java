@@ -123,6 +123,47 @@ public final class EdgeTextTest {
         }
     }
 
+    private static void aFaultLeavesNothing() {
+        Due.sentence("NONE: it has a FAULT");
+        String[] laws = {"hard 70;", "wears 71;", "earns 72;", "warm 73;"};
+        for (int law = 0; law < 4; law++) {
+            NoonOnABarrow x = new NoonOnABarrow();
+            Due.is("a law, and a fault", Due.text(x, laws[law] + "house 1;%"), -1);
+            Due.is("the law for the first time", Due.text(x, laws[law] + "%"), -1);
+            Due.is("not for the second time", x.fault(0), 1);
+            Due.is("without the law", Due.text(x, "pusher 1;"), 0);
+            x.by(0);
+            Due.is("played", x.played(0), -1);
+            Due.is("no house was in it", x.about(0), 0);
+            x.house(0);
+            x.house(0);
+            x.lane(0, 1, 1);
+            Due.is("hard", x.hard(0, 1, 0), 3);
+            Due.is("earns", x.of(0, 4), 12);
+            Due.is("warm", x.two(0, 1, 2), 25);
+            x.push(1, 0);
+            Due.is("wears", x.barrow(5), 1);
+        }
+        NoonOnABarrow x = new NoonOnABarrow();
+        for (int i = 0; i < 9; i++) {
+            Due.is("a long law with a fault", Due.text(x, "earns1" + "+1".repeat(146) + "%"), -1);
+            Due.is("its place", x.fault(1), 298);
+        }
+        Due.is("a long one without", Due.text(x, "earns9" + "+1-1".repeat(73) + ";"), 0);
+        x.by(0);
+        x.house(0);
+        Due.is("its law", x.of(0, 4), 9);
+        x.image();
+        Due.is("a text with laws", Due.text(x, "hard 70;wears 71;earns 72;warm 73;house 9;house 9;"), 1);
+        x.back();
+        Due.is("a text without, in its place", Due.text(x, "house 3;"), 1);
+        x.by(1);
+        Due.is("earns without", x.of(0, 4), 12);
+        Due.is("warm without", x.two(0, 0, 2), 30);
+        Due.is("played", x.played(1), -1);
+        Due.is("one house more", x.about(0), 2);
+    }
+
     private static void theLatestFault() {
         Due.sentence("Of the latest text that was read: 0 its FAULT (0 without), 1 its place (NONE without). NONE for others, and ahead of any.");
         NoonOnABarrow x = new NoonOnABarrow();
@@ -249,6 +290,110 @@ public final class EdgeTextTest {
                 Due.faulty(ahead + "here" + behind, 1, ahead.length());
             }
         }
+    }
+
+    /** A sum as it stands in a law, or an ask as it stands in an if. */
+    private static void sum(String sum) {
+        for (String law : LAWS) {
+            Due.fine(law + " " + sum + ";");
+        }
+        Due.fine("hard if " + sum + "<" + sum + " then " + sum + " else " + sum + " end;");
+    }
+
+    private static void notASum(String ahead, String token) {
+        Due.faulty("hard " + ahead + token + ";", 1, 5 + ahead.length());
+    }
+
+    private static void ask(String ask) {
+        Due.fine("hard if " + ask + " then 1 else 2 end;");
+    }
+
+    private static void notAnAsk(String ahead, String token) {
+        String then = token.isEmpty() ? "then" : " then";
+        Due.faulty("hard if " + ahead + token + then + " 1 else 2 end;", 1, 8 + ahead.length());
+    }
+
+    private static void grammar() {
+        Due.sentence("SUM: PRODUCT {+ or - PRODUCT}. PRODUCT: ONE {* or / ONE}.");
+        for (String s : new String[] {"1", "1+1", "1-1", "1*1", "1/1", "1+2-3+4", "1*2/3*4", "1+2*3-4/5", "1--1", "1*-1", "1/-1", "1+-1"}) {
+            sum(s);
+        }
+        for (String sign : new String[] {"+", "*", "/", ")", "=", "#", "<", ">", "<=", ">="}) {
+            notASum("", sign);
+            notASum("1+", sign);
+            notASum("1-", sign);
+            notASum("1*", sign);
+            notASum("1/", sign);
+            notASum("(", sign);
+            notASum("-", sign);
+        }
+        notASum("", "");
+        notASum("1+", "");
+        notASum("1*", "");
+        notASum("-", "");
+        Due.sentence("ONE: NUMBER, NAME, ( SUM ), - ONE, far ONE to ONE");
+        for (String s : new String[] {"here", "(1)", "(here)", "(1+1)", "-1", "-here", "-(1)", "--1", "far 1 to 2", "far here to here",
+            "far (1+1) to (2)", "far -1 to -2", "far far 1 to 2 to far 3 to 4", "-far 1 to 2", "(far 1 to 2)", "far 1 to 2+3", "far 1 to 2*3"}) {
+            sum(s);
+        }
+        notASum("(", ")");
+        notASum("(1", "");
+        notASum("(1 ", "2)");
+        notASum("1", ")");
+        notASum("1", "(");
+        notASum("1 ", "here");
+        notASum("here ", "1");
+        notASum("here ", "here");
+        notASum("far ", "to 1");
+        notASum("far 1 ", "1");
+        notASum("far 1 ", "of 1");
+        notASum("far 1", "+1 to 1");
+        notASum("far 1", "*1 to 1");
+        notASum("far 1 to ", "to");
+        notASum("far 1 to 1 ", "to 1");
+        Due.sentence("or if EITHER then SUM else SUM end. EITHER: BOTH {or BOTH}. BOTH: ASK {and ASK}.");
+        for (String a : new String[] {"1=1", "1=1 or 1=1", "1=1 and 1=1", "1=1 or 1=1 or 1=1", "1=1 and 1=1 and 1=1", "1=1 or 1=1 and 1=1 or 1=1",
+            "1+1=1*1", "(1)=(1)", "-1=-1", "if 1=1 then 1 else 1 end=1", "1=if 1=1 then 1 else 1 end"}) {
+            ask(a);
+        }
+        notAnAsk("", "");
+        notAnAsk("1 ", "");
+        notAnAsk("1=", "");
+        notAnAsk("1=1 or ", "");
+        notAnAsk("1=1 and ", "");
+        notAnAsk("1=1 or ", "or 1=1");
+        notAnAsk("1=1 and ", "or 1=1");
+        notAnAsk("", "or 1=1");
+        notAnAsk("", "and 1=1");
+        notAnAsk("1=1 or 1 ", "and 1=1");
+        notAnAsk("(1", "=1)");
+        notAnAsk("1=1", "=1");
+        notAnAsk("1<2", "<3");
+        notAnAsk("1=1 ", "1=1");
+        Due.faulty("hard if 1=1 else 2 end;", 1, 12);
+        Due.faulty("hard if 1=1 then else 2 end;", 1, 17);
+        Due.faulty("hard if 1=1 then 1 end;", 1, 19);
+        Due.faulty("hard if 1=1 then 1 else end;", 1, 24);
+        Due.faulty("hard if 1=1 then 1 else 2;", 1, 25);
+        Due.faulty("hard if 1=1 then 1 then 2 end;", 1, 19);
+        Due.faulty("hard if 1=1 then 1 else 2 else 3 end;", 1, 26);
+        Due.faulty("hard if 1=1 then 1 else 2 end end;", 1, 30);
+        Due.faulty("hard then;", 1, 5);
+        Due.sentence("ASK: not ASK, or SUM one of < <= > >= = # (unlike) SUM.");
+        for (String a : new String[] {"not 1=1", "not not 1=1", "not 1=1 or not 1=1", "not 1=1 and not 1=1", "1=1 or not 1=1", "1<1", "1<=1", "1>1", "1>=1", "1#1"}) {
+            ask(a);
+        }
+        notAnAsk("not ", "");
+        notAnAsk("not 1 ", "");
+        notAnAsk("1 ", "not 1=1");
+        notAnAsk("1=", "not 1");
+        notAnAsk("not (1", "=1)");
+        Due.sentence("{CLAUSE}, 24 at most");
+        for (int n = 0; n <= 24; n++) {
+            Due.fine("tip;".repeat(n));
+            Due.fine("house 1;".repeat(n));
+        }
+        Due.faulty("tip;".repeat(25), 6, 96);
     }
 
     private static void theEnd() {
@@ -436,10 +581,12 @@ public final class EdgeTextTest {
         threeHundredBytes();
         theFirstBytesAlone();
         fourTexts();
+        aFaultLeavesNothing();
         theLatestFault();
         theTextThatRules();
         everyByte();
         numbersToldAlone();
+        grammar();
         theEnd();
         nineOpen();
         closedOnesDontCount();
